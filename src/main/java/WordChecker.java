@@ -319,7 +319,7 @@ public final class WordChecker {
         int firstFault() {
             nodeCount = 0;
             id = text.number(0, 0);
-            if (id < 1 || id <= book.lastId()) {
+            if (id <= book.lastId()) {
                 return 0;
             }
             kind = kindOfWord();
@@ -502,6 +502,7 @@ public final class WordChecker {
             }
         }
 
+        /** 0 if there are no lines, so that no ID is 0. */
         int lastId() {
             return count > 0 ? rows[count - 1].id : 0;
         }
@@ -594,7 +595,7 @@ public final class WordChecker {
             }
         }
 
-        /** Bit j of the draft's node n, for the inputs' value i. */
+        /** Bit j of the draft's node n, turned over if it has a -, for the inputs' value i. */
         private long wireOf(Draft draft, int n, int j, int i) {
             long wire = rows[draft.nodes[n]].wires[j * INPUT_VALUES + i];
             return draft.turned[n] ? ~wire : wire;

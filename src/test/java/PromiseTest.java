@@ -90,6 +90,7 @@ public final class PromiseTest {
         line(x, "2 input 1", 2);
         due("n = 0", x.type('3', 0), false);
         due("n = 5", x.type('3', 5), false);
+        due("n = 5, all bytes good", x.type(Checks.pack("    "), 5), false);
         due("n = -1", x.type('3', -1), false);
         due("n least", x.type('3', Integer.MIN_VALUE), false);
         due("n greatest", x.type('3', Integer.MAX_VALUE), false);
