@@ -2,12 +2,15 @@
 final class Checks {
     private int wrong;
     private int done;
+    private int sentences;
+    private int doneBefore;
+    private String sentence = "";
 
     void due(String call, long got, long want) {
         done++;
         if (got != want) {
             wrong++;
-            System.out.println(call + " answered " + got + ", due is " + want);
+            System.out.println(sentence + call + " answered " + got + ", due is " + want);
         }
     }
 
@@ -15,12 +18,29 @@ final class Checks {
         due(call, got ? 1 : 0, want ? 1 : 0);
     }
 
+    /** From here on the answers are those that this sentence of the document asks for. */
+    void sentence(String words) {
+        endSentence();
+        sentences++;
+        sentence = "\"" + words + "\": ";
+    }
+
+    /** A sentence for which nothing was asked would pass unseen. */
+    private void endSentence() {
+        if (sentences > 0 && done == doneBefore) {
+            due("a test of this sentence", 0, 1);
+        }
+        doneBefore = done;
+    }
+
     boolean anyWrong() {
         return wrong > 0;
     }
 
     void end() {
-        System.out.println(done + " answers, " + wrong + " not as due");
+        endSentence();
+        System.out.println((sentences > 0 ? sentences + " sentences, " : "") + done + " answers, " + wrong
+            + " not as due");
         if (wrong > 0) {
             System.exit(1);
         }
@@ -65,5 +85,10 @@ final class Checks {
         int before = x.lines();
         due("line \"" + text + "\"", take(x, text), want);
         due("lines() after \"" + text + "\"", x.lines(), want > 0 ? before + 1 : before);
+    }
+
+    /** The answer for the line behind these lines, on an object of its own. */
+    void behind(String[] lines, String text, int want) {
+        line(with(lines), text, want);
     }
 }

@@ -18,6 +18,8 @@ public final class ModelTest {
     private WordChecker program;
     private Model model;
     private int lastId;
+    /** The calls made to the present object: the document promises nothing behind the 512th. */
+    private int calls;
     private StringBuilder log;
 
     private int random(int below) {
@@ -27,6 +29,7 @@ public final class ModelTest {
 
     private void same(String call, int got, int want) {
         log.append(call).append(" = ").append(want).append('\n');
+        calls++;
         checks.due(call, got, want);
         if (got != want && checks.anyWrong()) {
             System.out.println("after:\n" + log);
@@ -192,30 +195,37 @@ public final class ModelTest {
         some(0, 1, 30, 30);
     }
 
+    private void beginBoth(int x) {
+        program.begin(x);
+        model.begin(x);
+        calls++;
+        log.append("begin(").append(x).append(")\n");
+    }
+
+    private int findBoth(int k) {
+        int found = model.find(k);
+        same("find(" + k + ")", program.find(k), found);
+        count("find " + found);
+        return found;
+    }
+
+    private void proveBoth(int k) {
+        int proved = model.prove(k);
+        same("prove(" + k + ")", program.prove(k), proved);
+        count("prove " + proved);
+    }
+
     private void ask() {
         int k = random(5) - (random(6) == 0 ? 1 : 0);
         switch (random(9)) {
-            case 0 -> {
-                int x = random(256) - 20;
-                program.begin(x);
-                model.begin(x);
-                log.append("begin(").append(x).append(")\n");
-            }
+            case 0 -> beginBoth(random(256) - 20);
             case 1 -> {
                 int y = random(32) - 4;
                 same("feed(" + y + ")", program.feed(y), model.feed(y));
             }
             case 2 -> same("step()", program.step(), model.step());
-            case 3 -> {
-                int found = model.find(k);
-                same("find(" + k + ")", program.find(k), found);
-                count("find " + found);
-            }
-            case 4 -> {
-                int proved = model.prove(k);
-                same("prove(" + k + ")", program.prove(k), proved);
-                count("prove " + proved);
-            }
+            case 3 -> findBoth(k);
+            case 4 -> proveBoth(k);
             case 5 -> same("lines()", program.lines(), model.lines());
             case 6 -> {
                 int n = random(7) - 1;
@@ -223,16 +233,17 @@ public final class ModelTest {
                 same("type(" + word + ", " + n + ")", program.type(word, n), model.type(word, n));
                 same("line()", program.line(), model.line());
             }
-            default -> lookAtAll();
+            default -> look(4, 3);
         }
     }
 
-    private void lookAtAll() {
-        for (int id = -1; id <= lastId + 1; id++) {
+    /** Looks at some nodes, now and at steps up to one behind the last. */
+    private void look(int times, int last) {
+        for (int j = 0; j < times; j++) {
+            int id = random(lastId + 3) - 1;
+            int t = random(last + 3) - 1;
             same("value(" + id + ")", program.value(id), model.value(id));
-            for (int t = -1; t <= 4; t++) {
-                same("shown(" + t + ", " + id + ")", program.shown(t, id), model.shown(t, id));
-            }
+            same("shown(" + t + ", " + id + ")", program.shown(t, id), model.shown(t, id));
         }
     }
 
@@ -240,6 +251,7 @@ public final class ModelTest {
         program = new WordChecker();
         model = new Model();
         lastId = 0;
+        calls = 0;
         log = new StringBuilder();
         switch (random(4)) {
             case 0 -> writeAnySystem();
@@ -247,20 +259,16 @@ public final class ModelTest {
             case 2 -> writeCounter();
             default -> writeArray();
         }
-        for (int k = 0; k <= 3; k++) {
-            int found = model.find(k);
-            same("find(" + k + ")", program.find(k), found);
-            lookAtAll();
-            int proved = model.prove(k);
-            same("prove(" + k + ")", program.prove(k), proved);
-            count("find " + found);
-            count("prove " + proved);
+        for (int k = 0; k <= 3 && calls < 400; k++) {
+            int found = findBoth(k);
+            look(6, Math.max(found, 0));
+            proveBoth(k);
         }
-        program.begin(-1);
-        model.begin(-1);
-        for (int j = 0; j < 20; j++) {
+        beginBoth(-1);
+        while (calls < 500) {
             ask();
         }
+        checks.due("calls are at most 512: " + calls, calls <= 512, true);
     }
 
     public static void main(String[] args) {

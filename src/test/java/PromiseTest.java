@@ -533,38 +533,42 @@ public final class PromiseTest {
     }
 
     private static void valuesOfTwoNodes() {
-        String[] kinds = {"and", "or", "xor", "add", "sub", "sll", "srl", "mul", "udiv"};
         for (int w = 1; w <= 3; w++) {
-            WordChecker x = with("1 sort bitvec 1", "2 sort bitvec " + w, "3 state 2", "4 state 2", "20 eq 1 3 4",
-                "21 ult 1 3 4", "22 slt 1 3 4", "23 urem 2 3 4");
-            for (int i = 0; i < kinds.length - 1; i++) {
-                line(x, (30 + i) + " " + kinds[i] + " 2 3 4", 30 + i);
+            for (int a = 0; a < 1 << w; a++) {
+                valuesOfTwoNodes(w, a);
             }
-            WordChecker y = with("1 sort bitvec " + w, "3 state 1", "4 state 1", "38 udiv 1 3 4", "39 sub 1 -4 3");
-            int m = 1 << w;
-            for (int a = 0; a < m; a++) {
-                for (int b = 0; b < m; b++) {
-                    x.begin(a + b * m);
-                    y.begin(a + b * m);
-                    String of = " of " + a + " and " + b + ", width " + w;
-                    due("eq" + of, x.value(20), a == b ? 1 : 0);
-                    due("ult" + of, x.value(21), a < b ? 1 : 0);
-                    int sa = a >= m / 2 ? a - m : a;
-                    int sb = b >= m / 2 ? b - m : b;
-                    due("slt" + of, x.value(22), sa < sb ? 1 : 0);
-                    due("urem" + of, x.value(23), b == 0 ? a : a % b);
-                    due("and" + of, x.value(30), a & b);
-                    due("or" + of, x.value(31), a | b);
-                    due("xor" + of, x.value(32), a ^ b);
-                    due("add" + of, x.value(33), (a + b) % m);
-                    due("sub" + of, x.value(34), (a - b + m) % m);
-                    due("sll" + of, x.value(35), a * (1 << b) % m);
-                    due("srl" + of, x.value(36), a / (1 << b));
-                    due("mul" + of, x.value(37), a * b % m);
-                    due("udiv" + of, y.value(38), b == 0 ? m - 1 : a / b);
-                    due("sub with -" + of, y.value(39), (m - 1 - b - a + m) % m);
-                }
-            }
+        }
+    }
+
+    private static void valuesOfTwoNodes(int w, int a) {
+        String[] kinds = {"and", "or", "xor", "add", "sub", "sll", "srl", "mul"};
+        WordChecker x = with("1 sort bitvec 1", "2 sort bitvec " + w, "3 state 2", "4 state 2", "20 eq 1 3 4",
+            "21 ult 1 3 4", "22 slt 1 3 4", "23 urem 2 3 4");
+        for (int i = 0; i < kinds.length; i++) {
+            line(x, (30 + i) + " " + kinds[i] + " 2 3 4", 30 + i);
+        }
+        WordChecker y = with("1 sort bitvec " + w, "3 state 1", "4 state 1", "38 udiv 1 3 4", "39 sub 1 -4 3");
+        int m = 1 << w;
+        for (int b = 0; b < m; b++) {
+            x.begin(a + b * m);
+            y.begin(a + b * m);
+            String of = " of " + a + " and " + b + ", width " + w;
+            due("eq" + of, x.value(20), a == b ? 1 : 0);
+            due("ult" + of, x.value(21), a < b ? 1 : 0);
+            int sa = a >= m / 2 ? a - m : a;
+            int sb = b >= m / 2 ? b - m : b;
+            due("slt" + of, x.value(22), sa < sb ? 1 : 0);
+            due("urem" + of, x.value(23), b == 0 ? a : a % b);
+            due("and" + of, x.value(30), a & b);
+            due("or" + of, x.value(31), a | b);
+            due("xor" + of, x.value(32), a ^ b);
+            due("add" + of, x.value(33), (a + b) % m);
+            due("sub" + of, x.value(34), (a - b + m) % m);
+            due("sll" + of, x.value(35), a * (1 << b) % m);
+            due("srl" + of, x.value(36), a / (1 << b));
+            due("mul" + of, x.value(37), a * b % m);
+            due("udiv" + of, y.value(38), b == 0 ? m - 1 : a / b);
+            due("sub with -" + of, y.value(39), (m - 1 - b - a + m) % m);
         }
     }
 
@@ -585,14 +589,19 @@ public final class PromiseTest {
     }
 
     private static void valuesOfArrays() {
+        for (int v = 0; v < 4; v++) {
+            valuesOfArrays(v);
+        }
+    }
+
+    private static void valuesOfArrays(int v) {
         WordChecker x = with("1 sort bitvec 1", "2 sort bitvec 2", "3 sort array 1 2", "4 state 3", "5 input 1",
             "6 state 2", "7 read 2 4 5", "8 write 3 4 5 6", "9 ite 3 5 8 4", "10 eq 1 4 8", "11 write 3 4 -5 -6",
             "12 next 3 4 8", "13 read 2 8 -5");
-        for (int bits = 0; bits < 64; bits++) {
+        for (int bits = 0; bits < 16; bits++) {
             int low = bits % 4;
-            int high = bits / 4 % 4;
-            int v = bits / 16;
-            x.begin(bits);
+            int high = bits / 4;
+            x.begin(bits + 16 * v);
             due("array", x.value(4), low + 4 * high);
             due("read 0", x.value(7), low);
             due("write 0", x.value(8), v + 4 * high);
