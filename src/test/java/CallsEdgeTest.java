@@ -23,6 +23,7 @@ public final class CallsEdgeTest {
         lineEndsRun();
         lineDropsKept();
         refusedWhenBusy();
+        refusedLinesAddNothing();
         refusedWhenFull();
         refusedWhenIdle();
         refusedWhileTyping();
@@ -141,8 +142,10 @@ public final class CallsEdgeTest {
 
     private static void nothingRun() {
         CHECK.sentence("nothing is typed, run");
+        WordChecker other = busy();
         due("feed(0)", new WordChecker().feed(0), false);
         due("step()", new WordChecker().step(), false);
+        runIsOn("of an object beside it", other);
         WordChecker x = with("1 sort bitvec 1", "2 constd 1 1");
         due("value(2)", x.value(2), -1);
     }
@@ -151,7 +154,10 @@ public final class CallsEdgeTest {
         CHECK.sentence("run or kept");
         WordChecker x = with("1 sort bitvec 1", "2 constd 1 1", "3 bad 2");
         due("shown(0, 2)", x.shown(0, 2), -1);
+        WordChecker other = busy();
+        due("beside one that keeps something", x.shown(0, 2), -1);
         due("of a new one", new WordChecker().shown(0, 0), -1);
+        isKept("of an object beside it", other);
     }
 
     // Promise 2
@@ -404,6 +410,25 @@ public final class CallsEdgeTest {
         runIsOn("after refused calls", x);
         isKept("after refused calls", x);
         line(x, "13 state 1", 13);
+    }
+
+    private static void refusedLinesAddNothing() {
+        WordChecker x = with(Samples.baseAnd("9 constd 1 1", "10 bad 7"));
+        line(x, "11 bad 9 9", -4);
+        line(x, "11 constraint -7 7", -4);
+        line(x, "11 constraint -9 9", -4);
+        line(x, "11 init 2 6 8 8", -6);
+        line(x, "11 next 2 6 -6 6", -6);
+        due("no constraint was added, nor something bad", x.find(0), 0);
+        due("the input", x.shown(0, 7), 1);
+        x.begin(0);
+        due("no init was set", x.value(6), 0);
+        x.step();
+        due("no next was set", x.value(6), 0);
+        line(x, "11 state 1 1", -4);
+        line(x, "11 state 2", 11);
+        line(x, "12 input 1 1", -4);
+        line(x, "12 input 1", 12);
     }
 
     private static void refusedWhenFull() {

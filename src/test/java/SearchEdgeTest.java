@@ -9,6 +9,8 @@ public final class SearchEdgeTest {
 
     public static void main(String[] args) {
         leastSteps();
+        allBits();
+        manyStates();
         someBad();
         chosenAtStep0();
         constraintAtAllSteps();
@@ -83,6 +85,49 @@ public final class SearchEdgeTest {
         due("no more", often.shown(2, 2), -1);
     }
 
+    private static void allBits() {
+        CHECK.sentence("All states together have at most 6 bits");
+        // Bad is the last value of all 6 bits of states and 2 bits of inputs alone.
+        String[] lines = {
+            "1 sort bitvec 1", "2 sort bitvec 2", "3 sort bitvec 3", "4 state 3", "5 state 3", "6 input 2", "7 constd 3 7",
+            "8 eq 1 4 7", "9 eq 1 5 7", "10 constd 2 3", "11 eq 1 6 10", "12 and 1 8 9", "13 and 1 11 12", "14 bad 13"
+        };
+        WordChecker x = with(lines);
+        due("find(0)", x.find(0), 0);
+        due("the first state", x.shown(0, 4), 7);
+        due("the second state", x.shown(0, 5), 7);
+        due("the input", x.shown(0, 6), 3);
+        WordChecker y = with(Samples.both(lines, "15 constd 3 0", "16 init 3 5 15", "17 next 3 5 -15"));
+        due("at step 1", y.find(3), 1);
+        due("the first state at step 0", y.shown(0, 4), 7);
+        due("the second state at step 0", y.shown(0, 5), 0);
+        due("the input at step 0", y.shown(0, 6), 0);
+        due("the input at step 1", y.shown(1, 6), 3);
+        line(y, "18 init 3 4 15", 18);
+        due("none is found", y.find(3), -1);
+        due("but there is a stretch to it", y.prove(0), 0);
+        // The state goes from 1 to 2, which is bad, if the two bits of the input are 1, and else stays.
+        WordChecker z = with("1 sort bitvec 1", "2 sort bitvec 2", "3 state 2", "4 input 2", "5 constd 2 0", "6 init 2 3 5",
+            "7 constd 2 3", "8 eq 1 4 7", "9 constd 2 1", "10 eq 1 3 9", "11 and 1 8 10", "12 ite 2 11 -9 3", "13 next 2 3 12",
+            "14 constd 2 2", "15 eq 1 3 14", "16 bad 15");
+        due("none is found", z.find(3), -1);
+        due("by the last value of the input", z.prove(0), 0);
+        due("and by no other", z.prove(1), 1);
+    }
+
+    private static void manyStates() {
+        CHECK.sentence("All states together have at most 6 bits (an array has 2 * its elements' width)");
+        // The second one is 0 or 4, and goes to 0; the first one waits for that, and goes from 1 to 2 then.
+        WordChecker x = with("1 sort bitvec 1", "2 sort bitvec 3", "3 state 2", "4 state 2", "5 constd 2 0", "6 constd 2 1",
+            "7 constd 2 2", "8 init 2 3 5", "9 init 2 4 5", "10 next 2 4 5", "11 sub 2 3 6", "12 or 2 11 4",
+            "13 redor 1 12", "14 ite 2 13 3 7", "15 next 2 3 14", "16 eq 1 3 7", "17 bad 16", "18 sll 2 4 6",
+            "19 redor 1 18", "20 constraint -19");
+        due("none is found", x.find(3), -1);
+        due("1 and 0, 2 and 0", x.prove(0), 0);
+        due("1 and 4, 1 and 0, 2 and 0", x.prove(1), 0);
+        due("nothing goes to 1 and 4", x.prove(2), 1);
+    }
+
     private static void someBad() {
         CHECK.sentence("A run is bad at a step if some bad has the value 1 then.");
         WordChecker x = counter(0, 3, "17 constd 2 2", "18 eq 1 4 17", "19 bad 18");
@@ -118,8 +163,9 @@ public final class SearchEdgeTest {
             boolean met = not >= 1 && not <= 4;
             due("a constraint that is 0 at " + not, x.find(3), met ? -1 : 3);
         }
-        WordChecker two = counter(1, 4, "17 constd 1 1", "18 constraint 17", "19 constraint -17");
-        due("each of two", two.find(3), -1);
+        due("the first of two is 0", counter(1, 4, "17 constd 1 0", "18 constraint 17", "19 constraint -17").find(3), -1);
+        due("the second of two is 0", counter(1, 4, "17 constd 1 0", "18 constraint -17", "19 constraint 17").find(3), -1);
+        due("both are 1", counter(1, 4, "17 constd 1 1", "18 constraint 17", "19 constraint 17").find(3), 3);
         WordChecker atOnce = with("1 sort bitvec 1", "2 input 1", "3 bad 2", "4 constraint -2");
         due("at the step that is bad", atOnce.find(3), -1);
     }
@@ -406,10 +452,12 @@ public final class SearchEdgeTest {
     private static void keptByProving() {
         CHECK.sentence("(what is kept becomes as by finding with k)");
         WordChecker x = counter(0, 2);
+        x.begin(0);
         due("prove(2)", x.prove(2), 2);
         for (int t = 0; t <= 3; t++) {
             due("kept at " + t, x.shown(t, 4), t <= 2 ? t : -1);
         }
+        due("the run by hand stays", x.value(4), 0);
         due("prove(1)", x.prove(1), 0);
         due("nothing is kept", x.shown(0, 4), -1);
         due("find(3)", x.find(3), 2);
@@ -526,6 +574,8 @@ public final class SearchEdgeTest {
                 due("a constraint that is 0 at " + not + ", prove(" + k + ")", x.prove(k), met ? 1 : 0);
             }
         }
+        due("the first of two is 0", counter(0, 6, "17 constd 1 0", "18 constraint 17", "19 constraint -17").prove(0), 1);
+        due("the second of two is 0", counter(0, 6, "17 constd 1 0", "18 constraint -17", "19 constraint 17").prove(0), 1);
         WordChecker atEnd = with("1 sort bitvec 1", "2 state 1", "3 constd 1 0", "4 init 1 2 3", "5 input 1", "6 or 1 2 5",
             "7 next 1 2 6", "8 constraint -5", "9 bad 2");
         due("the input may not be 1", atEnd.prove(0), 1);

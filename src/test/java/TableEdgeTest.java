@@ -293,6 +293,12 @@ public final class TableEdgeTest {
         }
     }
 
+    /** An array of elements with three bits, 4; an input, 6; the array with 1 written to element 1, 8. */
+    private static final String[] WIDE = {
+        "1 sort bitvec 1", "2 sort bitvec 3", "3 sort array 1 2", "4 state 3", "5 constd 2 1", "6 input 1", "7 constd 1 1",
+        "8 write 3 4 7 5"
+    };
+
     private static void eq() {
         CHECK.sentence("eq S a b: S is bits of width 1, b has the sort of a: 1 if they are equal.");
         faults("eq 2 11 11", "-3", "eq 4 13 13", "-3", "eq 1 11 10", "-5", "eq 1 11 12", "-5", "eq 1 11 13", "-5",
@@ -308,6 +314,12 @@ public final class TableEdgeTest {
         for (int i = 0; i < 16; i++) {
             x.begin(i);
             CHECK.due("eq of arrays " + i, x.value(5), i % 4 == i / 4 ? 1 : 0);
+        }
+        // Of elements with three bits there is no second state: the array with 1 written to element 1.
+        WordChecker y = CHECK.with(Samples.both(WIDE, "9 eq 1 4 8"));
+        for (int i = 0; i < 64; i++) {
+            y.begin(i);
+            CHECK.due("eq of wide arrays " + i, y.value(9), i / 8 == 1 ? 1 : 0);
         }
     }
 
@@ -446,6 +458,13 @@ public final class TableEdgeTest {
             x.feed(1);
             CHECK.due("if, " + i, x.value(6), i % 4);
         }
+        WordChecker y = CHECK.with(Samples.both(WIDE, "9 ite 3 6 8 4"));
+        for (int i = 0; i < 64; i++) {
+            y.begin(i);
+            CHECK.due("else, wide, " + i, y.value(9), i);
+            y.feed(1);
+            CHECK.due("if, wide, " + i, y.value(9), i % 8 + 8);
+        }
     }
 
     private static void read() {
@@ -486,10 +505,13 @@ public final class TableEdgeTest {
         for (int w = 1; w <= 3; w += 2) {
             WordChecker y = CHECK.with("1 sort bitvec 1", "2 sort bitvec " + w, "3 sort array 1 2", "4 state 3",
                 "5 constd 2 1", "6 input 1", "7 write 3 4 6 5");
-            y.begin(0);
-            CHECK.due("1 in element 0, width " + w, y.value(7), 1);
-            y.feed(1);
-            CHECK.due("1 in element 1, width " + w, y.value(7), 1 << w);
+            int m = 1 << w;
+            for (int v = 0; v < m * m; v++) {
+                y.begin(v);
+                CHECK.due("1 in element 0 of " + v + ", width " + w, y.value(7), v / m * m + 1);
+                y.feed(1);
+                CHECK.due("1 in element 1 of " + v + ", width " + w, y.value(7), v % m + m);
+            }
         }
     }
 
@@ -547,6 +569,10 @@ public final class TableEdgeTest {
         CHECK.due("the value at step 0", x.value(11), 2);
         x.step();
         CHECK.due("the value at step 1", x.value(11), 1);
+        WordChecker y = CHECK.with(Samples.both(WIDE, "9 next 3 4 8"));
+        y.begin(63);
+        y.step();
+        CHECK.due("of an array, all bits", y.value(4), 15);
     }
 
     private static void badAndConstraint() {

@@ -261,6 +261,29 @@ public final class WordsEdgeTest {
                 CHECK.due("next of " + v, x.value(2), most - v);
             }
         }
+        for (int w = 1; w <= 3; w++) {
+            for (String text : OF_WIDTH) {
+                minusIsAsNot(w, text);
+            }
+        }
+    }
+
+    /** Lines over two nodes of one width, 3 and 4, that both can have a -, and one bit, 5. */
+    private static final String[] OF_WIDTH = {
+        "not 2 #3", "neg 2 #3", "redor 1 #3", "and 2 #3 #4", "or 2 #3 #4", "xor 2 #3 #4", "add 2 #3 #4", "sub 2 #3 #4",
+        "mul 2 #3 #4", "udiv 2 #3 #4", "urem 2 #3 #4", "sll 2 #3 #4", "srl 2 #3 #4", "eq 1 #3 #4", "ult 1 #3 #4",
+        "slt 1 #3 #4", "slice 1 #3 0 0", "uext 2 #3 0", "sext 2 #3 0", "ite 2 5 #3 #4"
+    };
+
+    private static void minusIsAsNot(int w, String text) {
+        WordChecker x = CHECK.with("1 sort bitvec 1", "2 sort bitvec " + w, "3 state 2", "4 state 2", "5 input 1",
+            "13 not 2 3", "14 not 2 4", "20 " + text.replace("#", "-"), "21 " + text.replace("#", "1"));
+        for (int v = 0; v < 1 << (2 * w); v++) {
+            x.begin(v);
+            CHECK.due(text + " of " + v + ", width " + w, x.value(20), x.value(21));
+            x.feed(1);
+            CHECK.due(text + " of " + v + " and 1, width " + w, x.value(20), x.value(21));
+        }
     }
 
     private static void sameSorts() {
