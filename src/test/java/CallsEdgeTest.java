@@ -179,7 +179,8 @@ public final class CallsEdgeTest {
         CHECK.sentence("false, refused, if n is not 1 .. 4");
         WordChecker x = new WordChecker();
         Checks.type(x, "1 sort bitvec 2");
-        int[] wrong = {0, 5, -1, 6, 8, 32, 256, -4, 1 << 30, Integer.MIN_VALUE, Integer.MIN_VALUE + 1, Integer.MAX_VALUE};
+        int[] wrong = {0, 5, -1, 6, 8, 32, 256, -4, 1 << 30, Integer.MIN_VALUE, Integer.MIN_VALUE + 1,
+            Integer.MAX_VALUE};
         for (int n : wrong) {
             due("n = " + n, x.type(0x20202020, n), false);
             due("n = " + n, x.type(0x31313131, n), false);
@@ -666,7 +667,8 @@ public final class CallsEdgeTest {
 
     private static void stepsAgainstConstraints() {
         CHECK.sentence("(constraints do not matter)");
-        WordChecker x = with("1 sort bitvec 1", "2 constd 1 0", "3 constraint 2", "4 state 1", "5 next 1 4 -4", "6 bad 4");
+        WordChecker x = with("1 sort bitvec 1", "2 constd 1 0", "3 constraint 2", "4 state 1", "5 next 1 4 -4",
+            "6 bad 4");
         x.begin(0);
         due("begin", x.value(4), 0);
         due("feed(0)", x.feed(0), true);
@@ -713,8 +715,8 @@ public final class CallsEdgeTest {
 
     private static void keepsItsValue() {
         CHECK.sentence("without next it keeps its value");
-        WordChecker x = with("1 sort bitvec 1", "2 sort array 1 1", "3 constd 1 1", "4 state 2", "5 state 1", "6 state 1",
-            "7 init 1 6 3", "8 next 1 5 -5");
+        WordChecker x = with("1 sort bitvec 1", "2 sort array 1 1", "3 constd 1 1", "4 state 2", "5 state 1",
+            "6 state 1", "7 init 1 6 3", "8 next 1 5 -5");
         x.begin(0b0_10);
         for (int t = 0; t < 5; t++) {
             due("a chosen one", x.value(4), 2);

@@ -74,7 +74,8 @@ public final class ModelTest {
         StringBuilder text = new StringBuilder();
         text.append(lastId + 1 + (random(20) == 0 ? 1 : 0)).append(' ').append(KINDS[which]);
         if (which == 0) {
-            text.append(random(2) == 0 ? " bitvec " + (1 + random(3)) : " array " + (1 + random(4)) + " " + (1 + random(4)));
+            text.append(random(2) == 0
+                ? " bitvec " + (1 + random(3)) : " array " + (1 + random(4)) + " " + (1 + random(4)));
             return text.toString();
         }
         for (int j = 0; j < LENGTHS[which]; j++) {
@@ -97,7 +98,8 @@ public final class ModelTest {
     private String spoilt(String text) {
         String[] words = text.split(" ");
         int j = random(words.length);
-        String[] others = {"", "0", "01", "-1", "--2", "- 3", "100", "foo", "Sort", "7x", "-", "99", "add", words[j] + " 3"};
+        String[] others = {"", "0", "01", "-1", "--2", "- 3", "100", "foo", "Sort", "7x", "-", "99", "add",
+            words[j] + " 3"};
         words[j] = others[random(others.length)];
         if (random(4) == 0) {
             return text + " 1";

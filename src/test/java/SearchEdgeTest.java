@@ -79,7 +79,8 @@ public final class SearchEdgeTest {
                 }
             }
         }
-        WordChecker often = with("1 sort bitvec 1", "2 state 1", "3 constd 1 0", "4 init 1 2 3", "5 next 1 2 -2", "6 bad 2");
+        WordChecker often = with("1 sort bitvec 1", "2 state 1", "3 constd 1 0", "4 init 1 2 3", "5 next 1 2 -2",
+            "6 bad 2");
         due("bad at 1 and at 3", often.find(3), 1);
         due("one step behind step 0", often.shown(1, 2), 1);
         due("no more", often.shown(2, 2), -1);
@@ -89,7 +90,8 @@ public final class SearchEdgeTest {
         CHECK.sentence("All states together have at most 6 bits");
         // Bad is the last value of all 6 bits of states and 2 bits of inputs alone.
         String[] lines = {
-            "1 sort bitvec 1", "2 sort bitvec 2", "3 sort bitvec 3", "4 state 3", "5 state 3", "6 input 2", "7 constd 3 7",
+            "1 sort bitvec 1", "2 sort bitvec 2", "3 sort bitvec 3", "4 state 3", "5 state 3", "6 input 2",
+            "7 constd 3 7",
             "8 eq 1 4 7", "9 eq 1 5 7", "10 constd 2 3", "11 eq 1 6 10", "12 and 1 8 9", "13 and 1 11 12", "14 bad 13"
         };
         WordChecker x = with(lines);
@@ -107,9 +109,10 @@ public final class SearchEdgeTest {
         due("none is found", y.find(3), -1);
         due("but there is a stretch to it", y.prove(0), 0);
         // The state goes from 1 to 2, which is bad, if the two bits of the input are 1, and else stays.
-        WordChecker z = with("1 sort bitvec 1", "2 sort bitvec 2", "3 state 2", "4 input 2", "5 constd 2 0", "6 init 2 3 5",
-            "7 constd 2 3", "8 eq 1 4 7", "9 constd 2 1", "10 eq 1 3 9", "11 and 1 8 10", "12 ite 2 11 -9 3", "13 next 2 3 12",
-            "14 constd 2 2", "15 eq 1 3 14", "16 bad 15");
+        WordChecker z = with("1 sort bitvec 1", "2 sort bitvec 2", "3 state 2", "4 input 2", "5 constd 2 0",
+            "6 init 2 3 5",
+            "7 constd 2 3", "8 eq 1 4 7", "9 constd 2 1", "10 eq 1 3 9", "11 and 1 8 10", "12 ite 2 11 -9 3",
+            "13 next 2 3 12", "14 constd 2 2", "15 eq 1 3 14", "16 bad 15");
         due("none is found", z.find(3), -1);
         due("by the last value of the input", z.prove(0), 0);
         due("and by no other", z.prove(1), 1);
@@ -118,7 +121,8 @@ public final class SearchEdgeTest {
     private static void manyStates() {
         CHECK.sentence("All states together have at most 6 bits (an array has 2 * its elements' width)");
         // The second one is 0 or 4, and goes to 0; the first one waits for that, and goes from 1 to 2 then.
-        WordChecker x = with("1 sort bitvec 1", "2 sort bitvec 3", "3 state 2", "4 state 2", "5 constd 2 0", "6 constd 2 1",
+        WordChecker x = with("1 sort bitvec 1", "2 sort bitvec 3", "3 state 2", "4 state 2", "5 constd 2 0",
+            "6 constd 2 1",
             "7 constd 2 2", "8 init 2 3 5", "9 init 2 4 5", "10 next 2 4 5", "11 sub 2 3 6", "12 or 2 11 4",
             "13 redor 1 12", "14 ite 2 13 3 7", "15 next 2 3 14", "16 eq 1 3 7", "17 bad 16", "18 sll 2 4 6",
             "19 redor 1 18", "20 constraint -19");
@@ -146,7 +150,8 @@ public final class SearchEdgeTest {
 
     private static void chosenAtStep0() {
         CHECK.sentence("at step 0 each state has its init value; one without init any value (it is CHOSEN)");
-        String[] lines = {"1 sort bitvec 1", "2 sort bitvec 2", "3 state 2", "4 constd 2 1", "5 constd 2 3", "6 eq 1 3 5", "7 bad 6"};
+        String[] lines = {"1 sort bitvec 1", "2 sort bitvec 2", "3 state 2", "4 constd 2 1", "5 constd 2 3",
+            "6 eq 1 3 5", "7 bad 6"};
         WordChecker x = with(lines);
         due("any value", x.find(0), 0);
         due("the bad one", x.shown(0, 3), 3);
@@ -163,8 +168,10 @@ public final class SearchEdgeTest {
             boolean met = not >= 1 && not <= 4;
             due("a constraint that is 0 at " + not, x.find(3), met ? -1 : 3);
         }
-        due("the first of two is 0", counter(1, 4, "17 constd 1 0", "18 constraint 17", "19 constraint -17").find(3), -1);
-        due("the second of two is 0", counter(1, 4, "17 constd 1 0", "18 constraint -17", "19 constraint 17").find(3), -1);
+        due("the first of two is 0", counter(1, 4, "17 constd 1 0", "18 constraint 17", "19 constraint -17").find(3),
+            -1);
+        due("the second of two is 0", counter(1, 4, "17 constd 1 0", "18 constraint -17", "19 constraint 17").find(3),
+            -1);
         due("both are 1", counter(1, 4, "17 constd 1 1", "18 constraint 17", "19 constraint 17").find(3), 3);
         WordChecker atOnce = with("1 sort bitvec 1", "2 input 1", "3 bad 2", "4 constraint -2");
         due("at the step that is bad", atOnce.find(3), -1);
@@ -188,7 +195,8 @@ public final class SearchEdgeTest {
 
     private static void statesInOrder() {
         CHECK.sentence("the states in the order of their lines");
-        WordChecker x = with("1 sort bitvec 1", "2 state 1", "3 state 1", "4 state 1", "5 xor 1 2 3", "6 xor 1 5 4", "7 bad 6");
+        WordChecker x = with("1 sort bitvec 1", "2 state 1", "3 state 1", "4 state 1", "5 xor 1 2 3", "6 xor 1 5 4",
+            "7 bad 6");
         due("find(0)", x.find(0), 0);
         due("the first", x.shown(0, 2), 0);
         due("the second", x.shown(0, 3), 0);
@@ -204,7 +212,8 @@ public final class SearchEdgeTest {
         CHECK.sentence("each from its highest bit on");
         // Bad are 3 and 4 (with higher bits 0 and 1), or 2 and 5, or 1 and 6: the lower one is due.
         for (int v = 1; v <= 3; v++) {
-            WordChecker x = with(Samples.both(NUMBERS, "6 constd 2 " + v, "7 eq 1 4 6", "8 eq 1 4 -6", "9 or 1 7 8", "10 bad 9"));
+            WordChecker x = with(Samples.both(NUMBERS, "6 constd 2 " + v, "7 eq 1 4 6", "8 eq 1 4 -6", "9 or 1 7 8",
+                "10 bad 9"));
             due("find(0)", x.find(0), 0);
             due("the less one", x.shown(0, 4), v);
         }
@@ -216,8 +225,8 @@ public final class SearchEdgeTest {
     private static void elementOneFirst() {
         CHECK.sentence("(of an array element 1 first)");
         for (int w = 1; w <= 3; w++) {
-            WordChecker x = with("1 sort bitvec 1", "2 sort bitvec " + w, "3 sort array 1 2", "4 state 3", "5 constd 1 0",
-                "6 read 2 4 5", "7 read 2 4 -5", "8 xor 2 6 7", "9 slice 1 8 0 0", "10 bad 9");
+            WordChecker x = with("1 sort bitvec 1", "2 sort bitvec " + w, "3 sort array 1 2", "4 state 3",
+                "5 constd 1 0", "6 read 2 4 5", "7 read 2 4 -5", "8 xor 2 6 7", "9 slice 1 8 0 0", "10 bad 9");
             due("find(0), width " + w, x.find(0), 0);
             due("element 1 is 0, width " + w, x.shown(0, 7), 0);
             due("element 0 is 1, width " + w, x.shown(0, 6), 1);
@@ -293,7 +302,8 @@ public final class SearchEdgeTest {
         due("the input at step 0", x.shown(0, 4), 1);
         due("the input at step 1", x.shown(1, 4), 0);
         // An input at step 0 comes before one at step 1.
-        WordChecker y = with("1 sort bitvec 1", "2 state 1", "3 input 1", "4 constd 1 0", "5 init 1 2 4", "6 next 1 2 3",
+        WordChecker y = with("1 sort bitvec 1", "2 state 1", "3 input 1", "4 constd 1 0", "5 init 1 2 4",
+            "6 next 1 2 3",
             "7 state 1", "8 init 1 7 4", "9 constd 1 1", "10 next 1 7 9", "11 xor 1 2 3", "12 and 1 7 11", "13 bad 12");
         due("find(3)", y.find(3), 1);
         due("the input at step 0", y.shown(0, 3), 0);
@@ -379,7 +389,8 @@ public final class SearchEdgeTest {
             due("least", x.shown(Integer.MIN_VALUE, 4), -1);
             due("greatest", x.shown(Integer.MAX_VALUE, 4), -1);
         }
-        WordChecker shorter = with("1 sort bitvec 1", "2 state 1", "3 bad 2", "4 constd 1 0", "5 init 1 2 4", "6 next 1 2 -2");
+        WordChecker shorter = with("1 sort bitvec 1", "2 state 1", "3 bad 2", "4 constd 1 0", "5 init 1 2 4",
+            "6 next 1 2 -2");
         due("find(3)", shorter.find(3), 1);
         due("step 1", shorter.shown(1, 2), 1);
         line(shorter, "7 bad -2", 7);
@@ -390,8 +401,8 @@ public final class SearchEdgeTest {
 
     private static void shownWithoutNode() {
         CHECK.sentence("-1 if there is no such run, step or node");
-        WordChecker x = with("10 sort bitvec 1", "20 constd 10 1", "30 state 10", "40 init 10 30 20", "50 next 10 30 30",
-            "60 bad 30", "70 constraint 30", "99 input 10");
+        WordChecker x = with("10 sort bitvec 1", "20 constd 10 1", "30 state 10", "40 init 10 30 20",
+            "50 next 10 30 30", "60 bad 30", "70 constraint 30", "99 input 10");
         due("find(0)", x.find(0), 0);
         for (int id = -100; id <= 200; id++) {
             int want = id == 20 || id == 30 ? 1 : id == 99 ? 0 : -1;
@@ -509,8 +520,8 @@ public final class SearchEdgeTest {
         CHECK.sentence("A stretch has steps 0 .. k + 1 like a run");
         // The way that ends with 7, which is bad, begins with the number from; others go to 0.
         for (int from = 3; from <= 7; from++) {
-            WordChecker x = with(Samples.both(NUMBERS, "6 init 2 4 3", "7 constd 2 " + from, "8 add 2 4 5", "9 ult 1 4 7",
-                "10 ite 2 9 3 8", "11 next 2 4 10", "12 constd 2 7", "13 eq 1 4 12", "14 bad 13"));
+            WordChecker x = with(Samples.both(NUMBERS, "6 init 2 4 3", "7 constd 2 " + from, "8 add 2 4 5",
+                "9 ult 1 4 7", "10 ite 2 9 3 8", "11 next 2 4 10", "12 constd 2 7", "13 eq 1 4 12", "14 bad 13"));
             due("none is found", x.find(3), -1);
             for (int k = 0; k <= 2; k++) {
                 due(from + " .. 7, prove(" + k + ")", x.prove(k), 7 - from >= k + 1 ? 0 : 1);
@@ -533,8 +544,8 @@ public final class SearchEdgeTest {
         for (int k = 0; k <= 2; k++) {
             due("no states, prove(" + k + ")", none.prove(k), 1);
         }
-        WordChecker stays = with("1 sort bitvec 1", "2 state 1", "3 constd 1 0", "4 init 1 2 3", "5 input 1", "6 and 1 2 5",
-            "7 bad 6");
+        WordChecker stays = with("1 sort bitvec 1", "2 state 1", "3 constd 1 0", "4 init 1 2 3", "5 input 1",
+            "6 and 1 2 5", "7 bad 6");
         for (int k = 0; k <= 2; k++) {
             due("a state that keeps its value, prove(" + k + ")", stays.prove(k), 1);
         }
@@ -543,8 +554,8 @@ public final class SearchEdgeTest {
     /** From 0 the state stays; 1 and 2 go to each other, and 2 is bad if the input is 1. */
     private static void twoTurns() {
         WordChecker x = with("1 sort bitvec 1", "2 sort bitvec 2", "3 state 2", "4 constd 2 0", "5 init 2 3 4",
-            "6 redor 1 3", "7 ite 2 6 -3 3", "8 next 2 3 7", "9 input 1", "10 constd 2 2", "11 eq 1 3 10", "12 and 1 11 9",
-            "13 bad 12", "14 constd 2 3", "15 eq 1 3 14", "16 constraint -15");
+            "6 redor 1 3", "7 ite 2 6 -3 3", "8 next 2 3 7", "9 input 1", "10 constd 2 2", "11 eq 1 3 10",
+            "12 and 1 11 9", "13 bad 12", "14 constd 2 3", "15 eq 1 3 14", "16 constraint -15");
         due("none is found", x.find(3), -1);
         due("1, 2", x.prove(0), 0);
         due("2, 1, 2: steps 0 and 2 are the same", x.prove(1), 1);
@@ -554,13 +565,13 @@ public final class SearchEdgeTest {
     private static void differentInOneState() {
         CHECK.sentence("the same values of all states");
         // Of two states the one stays, and the other turns over; bad is what no run meets: 1 and 1.
-        WordChecker x = with("1 sort bitvec 1", "2 state 1", "3 state 1", "4 constd 1 0", "5 init 1 2 4", "6 next 1 3 -3",
-            "7 and 1 2 3", "8 bad 7");
+        WordChecker x = with("1 sort bitvec 1", "2 state 1", "3 state 1", "4 constd 1 0", "5 init 1 2 4",
+            "6 next 1 3 -3", "7 and 1 2 3", "8 bad 7");
         due("none is found", x.find(3), -1);
         due("10, 11 differ in one state", x.prove(0), 0);
         due("11, 10, 11 is bad before, and not different", x.prove(1), 1);
-        WordChecker y = with("1 sort bitvec 1", "2 sort array 1 1", "3 state 2", "4 state 1", "5 constd 1 0", "6 init 1 4 5",
-            "7 read 1 3 5", "8 write 2 3 5 -7", "9 next 2 3 8", "10 and 1 4 7", "11 bad 10");
+        WordChecker y = with("1 sort bitvec 1", "2 sort array 1 1", "3 state 2", "4 state 1", "5 constd 1 0",
+            "6 init 1 4 5", "7 read 1 3 5", "8 write 2 3 5 -7", "9 next 2 3 8", "10 and 1 4 7", "11 bad 10");
         due("arrays that differ in one element", y.prove(0), 0);
         due("two of three are the same", y.prove(1), 1);
     }
@@ -574,10 +585,12 @@ public final class SearchEdgeTest {
                 due("a constraint that is 0 at " + not + ", prove(" + k + ")", x.prove(k), met ? 1 : 0);
             }
         }
-        due("the first of two is 0", counter(0, 6, "17 constd 1 0", "18 constraint 17", "19 constraint -17").prove(0), 1);
-        due("the second of two is 0", counter(0, 6, "17 constd 1 0", "18 constraint -17", "19 constraint 17").prove(0), 1);
-        WordChecker atEnd = with("1 sort bitvec 1", "2 state 1", "3 constd 1 0", "4 init 1 2 3", "5 input 1", "6 or 1 2 5",
-            "7 next 1 2 6", "8 constraint -5", "9 bad 2");
+        due("the first of two is 0", counter(0, 6, "17 constd 1 0", "18 constraint 17", "19 constraint -17").prove(0),
+            1);
+        due("the second of two is 0", counter(0, 6, "17 constd 1 0", "18 constraint -17", "19 constraint 17").prove(0),
+            1);
+        WordChecker atEnd = with("1 sort bitvec 1", "2 state 1", "3 constd 1 0", "4 init 1 2 3", "5 input 1",
+            "6 or 1 2 5", "7 next 1 2 6", "8 constraint -5", "9 bad 2");
         due("the input may not be 1", atEnd.prove(0), 1);
     }
 
@@ -587,7 +600,8 @@ public final class SearchEdgeTest {
         for (int low = 1; low <= 7; low++) {
             for (int bad = low; bad <= 7; bad++) {
                 WordChecker x = with(Samples.both(NUMBERS, "6 init 2 4 3", "7 constd 2 " + low, "8 add 2 4 5",
-                    "9 ult 1 4 7", "10 ite 2 9 3 8", "11 next 2 4 10", "12 constd 2 " + bad, "13 ult 1 4 12", "14 bad -13"));
+                    "9 ult 1 4 7", "10 ite 2 9 3 8", "11 next 2 4 10", "12 constd 2 " + bad, "13 ult 1 4 12",
+                    "14 bad -13"));
                 for (int k = 0; k <= 2; k++) {
                     due(low + " .. " + bad + ", prove(" + k + ")", x.prove(k), bad - low >= k + 1 ? 0 : 1);
                 }

@@ -295,8 +295,8 @@ public final class TableEdgeTest {
 
     /** An array of elements with three bits, 4; an input, 6; the array with 1 written to element 1, 8. */
     private static final String[] WIDE = {
-        "1 sort bitvec 1", "2 sort bitvec 3", "3 sort array 1 2", "4 state 3", "5 constd 2 1", "6 input 1", "7 constd 1 1",
-        "8 write 3 4 7 5"
+        "1 sort bitvec 1", "2 sort bitvec 3", "3 sort array 1 2", "4 state 3", "5 constd 2 1", "6 input 1",
+        "7 constd 1 1", "8 write 3 4 7 5"
     };
 
     private static void eq() {

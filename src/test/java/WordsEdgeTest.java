@@ -10,7 +10,8 @@ public final class WordsEdgeTest {
         "90 constd 1 #", "90 not # 7", "90 not 1 #", "90 slice 1 6 # 0", "90 slice 1 6 1 #", "90 uext 2 6 #",
         "90 ite 1 7 7 #", "90 next 2 # 6", "90 bad #", "90 constraint #"
     };
-    private static final String[] GOOD = {"9", "1", "1", "1", "1", "1", "1", "1", "7", "0", "1", "0", "7", "6", "7", "7"};
+    private static final String[] GOOD = {"9", "1", "1", "1", "1", "1", "1", "1", "7", "0", "1", "0", "7", "6", "7",
+        "7"};
     private static final int[] FAULTS = {-1, -4, -4, -5, -3, -3, -4, -3, -4, -5, -6, -5, -6, -4, -3, -3};
     private static final boolean[] IS_NODE = {
         false, false, false, false, false, false, false, false, true, false, false, false, true, false, true, true
@@ -354,7 +355,8 @@ public final class WordsEdgeTest {
             CHECK.line(x, "6 not 1 -5", 6);
             CHECK.line(x, "7 init 1 3 6", 7);
         }
-        WordChecker y = CHECK.with("1 sort bitvec 1", "2 sort bitvec 2", "3 constd 1 1", "4 concat 2 3 -3", "5 state 2");
+        WordChecker y = CHECK.with("1 sort bitvec 1", "2 sort bitvec 2", "3 constd 1 1", "4 concat 2 3 -3",
+            "5 state 2");
         CHECK.line(y, "6 init 2 5 4", 6);
         y.begin(1);
         CHECK.due("the state at step 0", y.value(5), 2);
