@@ -11,7 +11,8 @@ public final class FaceTest {
         "boolean type(int, int)", "int line()", "int lines()", "void begin(int)", "boolean feed(int)",
         "boolean step()", "int value(int)", "int find(int)", "int shown(int, int)", "int prove(int)");
 
-    private static String told(Method method) {
+    /** The method without the names of its parameters. */
+    static String told(Method method) {
         StringBuilder text = new StringBuilder(method.getReturnType().getSimpleName());
         text.append(' ').append(method.getName()).append('(');
         for (Class<?> type : method.getParameterTypes()) {
