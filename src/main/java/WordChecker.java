@@ -946,7 +946,7 @@ public final class WordChecker {
         private void divide(boolean wantRest) {
             clear(rest);
             for (int j = width - 1; j >= 0; j--) {
-                for (int m = width; m > 0; m--) {
+                for (int m = width - 1; m > 0; m--) {
                     rest[m] = rest[m - 1];
                 }
                 rest[0] = a[j];
@@ -957,15 +957,15 @@ public final class WordChecker {
             }
         }
 
-        /** Takes b from the rest where it is enough, and answers where; the rest has one bit more. */
+        /** Takes b from the rest where it is enough, and answers where; no rest is ever more than a. */
         private long takeAway() {
             long borrow = 0;
-            for (int m = 0; m <= width; m++) {
+            for (int m = 0; m < width; m++) {
                 long differ = rest[m] ^ b[m];
                 less[m] = differ ^ borrow;
                 borrow = (differ & b[m]) | (~differ & borrow);
             }
-            for (int m = 0; m <= width; m++) {
+            for (int m = 0; m < width; m++) {
                 rest[m] = (borrow & rest[m]) | (~borrow & less[m]);
             }
             return ~borrow;

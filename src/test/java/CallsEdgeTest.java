@@ -264,6 +264,14 @@ public final class CallsEdgeTest {
         due("nothing is typed", x.line(), -1);
         line(x, "1 1 1 1 1 1 1 1 1 1 1 1 1 1 1 1 1 1 1 1", -1);
         line(x, "2 input 1                               ", 2);
+        for (String good : Samples.LINES) {
+            WordChecker y = with(Samples.BASE);
+            line(y, "9 input 9", -3);
+            line(y, "9 slice 2 6 1 2", -6);
+            line(y, "9 write 4 5 7 6", -6);
+            line(y, "9 and 9", -3);
+            line(y, "9 " + good, 9);
+        }
     }
 
     private static void typedIsGoneIfFull() {
@@ -574,6 +582,10 @@ public final class CallsEdgeTest {
                 due("the last one, " + word, x.value(8), bits & 3);
             }
         }
+        WordChecker behind = with("1 sort bitvec 1", "2 constd 1 0", "3 state 1", "4 state 1", "5 init 1 4 2");
+        behind.begin(-1);
+        due("the only one that is chosen", behind.value(3), 1);
+        due("one with init behind it", behind.value(4), 0);
         WordChecker six = with("1 sort bitvec 3", "2 state 1", "3 state 1");
         six.begin(64);
         due("bit 6: the first one", six.value(2), 0);

@@ -143,6 +143,8 @@ public final class SearchEdgeTest {
         due("no bad", none.find(3), -1);
         WordChecker always = with("1 sort bitvec 1", "2 constd 1 1", "3 bad 2", "4 bad -2");
         due("one of two", always.find(0), 0);
+        WordChecker both = with("1 sort bitvec 1", "2 constd 1 1", "3 bad 2", "4 bad 2");
+        due("both of two", both.find(0), 0);
         WordChecker two = with("1 sort bitvec 1", "2 state 1", "3 bad 2", "4 bad -2");
         due("now this one, now that", two.find(0), 0);
         due("the least run", two.shown(0, 2), 0);
@@ -525,6 +527,13 @@ public final class SearchEdgeTest {
             due("none is found", x.find(3), -1);
             for (int k = 0; k <= 2; k++) {
                 due(from + " .. 7, prove(" + k + ")", x.prove(k), 7 - from >= k + 1 ? 0 : 1);
+            }
+        }
+        // It goes round, so that each number, 0 too, is once each of the steps of a stretch.
+        for (int to = 0; to < 8; to++) {
+            WordChecker x = counter((to + 1) % 8, to);
+            for (int k = 0; k <= 2; k++) {
+                due("round to " + to + ", prove(" + k + ")", x.prove(k), 0);
             }
         }
     }

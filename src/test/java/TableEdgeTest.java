@@ -207,8 +207,18 @@ public final class TableEdgeTest {
         for (int i = 0; i < m * m; i++) {
             x.begin(i);
             values[i] = x.value(5);
+            CHECK.due(kind + " of constants " + i % m + " and " + i / m + ", width " + w,
+                valueOf(kind, w, i % m, i / m), values[i]);
         }
         return values;
+    }
+
+    /** The value of the kind for two constants, in a system without states. */
+    private static int valueOf(String kind, int w, int a, int b) {
+        WordChecker x = CHECK.with("1 sort bitvec 1", "2 sort bitvec " + w, "3 constd 2 " + a, "4 constd 2 " + b,
+            "5 " + kind + " 3 4");
+        x.begin(0);
+        return x.value(5);
     }
 
     private static void reckoningWraps() {
@@ -545,6 +555,14 @@ public final class TableEdgeTest {
         WordChecker y = CHECK.with(Samples.both(lines, "90 init 2 11 16"));
         y.begin(0);
         CHECK.due("2 and 1", y.value(11), 3);
+        WordChecker between = CHECK.with("1 sort bitvec 1", "2 sort bitvec 2", "3 state 1", "4 state 2", "5 state 1",
+            "6 constd 2 2", "7 init 2 4 -6");
+        for (int bits = 0; bits < 4; bits++) {
+            between.begin(bits);
+            CHECK.due("between states without init, " + bits, between.value(4), 1);
+            CHECK.due("the state before it, " + bits, between.value(3), bits & 1);
+            CHECK.due("the state behind it, " + bits, between.value(5), bits >> 1);
+        }
     }
 
     private static void next() {
